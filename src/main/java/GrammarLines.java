@@ -219,7 +219,8 @@ public final class GrammarLines {
             return NONE;
         }
         boolean swapped = lines.isReversed(report.line) && trial.slotsTaken() == MOST_SLOTS;
-        Slot wanted = (slot == 0) == swapped ? trial.second : trial.first;
+        boolean isFirst = swapped ? slot == 1 : slot == 0;
+        Slot wanted = isFirst ? trial.first : trial.second;
         if (wanted.kind == NONE) {
             return NONE;
         }

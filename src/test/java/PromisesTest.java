@@ -352,6 +352,18 @@ public final class PromisesTest {
         due("a fifth", g.name(0, 14), ROOM);
         due("one of four again", g.name(0, 13), 4);
         due("a fifth outside", g.name(0, 9), OUTSIDE);
+        g.name(1, 11);
+        g.verb(50);
+        lineOf(g, 0, 1, false, 2);
+        due("a name of the next thing alone", say(g, 50, 11), 1);
+        slot("a name of the next thing alone", g, 0, 2, 1);
+        due("the first name of the next thing", g.name(0, 11), ROOM);
+        GrammarLines full = oneLine(2);
+        thingOf(full, 1, 20, 21, 22, 23);
+        thingOf(full, 1, 24);
+        due("the thing behind a full one", say(full, 50, 24), 1);
+        slot("the thing behind a full one", full, 0, 2, 1);
+        due("a fifth that the next has", full.name(0, 24), ROOM);
     }
 
     private static void flags() {
@@ -894,6 +906,11 @@ public final class PromisesTest {
         due("AGAIN of an answer", say(g, AGAIN), 1);
         command("AGAIN of an answer", g, 50, 20, 30);
         due("to none", g.told(3), NONE);
+        g.verb(51);
+        lineOf(g, 1, 2, false);
+        due("one word", say(g, 51), 2);
+        due("AGAIN of one word", say(g, AGAIN), 2);
+        due("the longer one", say(g, 50, 20, 30), 1);
         due("bob, AGAIN", say(g, 23, COMMA, AGAIN), 1);
         due("goes to whom that went", g.told(3), NONE);
         error("AGAIN and more", g, say(g, AGAIN, 21), 2, 0);
@@ -1135,7 +1152,14 @@ public final class PromisesTest {
         due("said(1, 0)", g.said(1, 0), 50);
         due("said(1, 1)", g.said(1, 1), NONE);
         g.clear();
+        due("another verb", say(g, 51), 8);
+        int[] one = {1, 0, NONE};
+        for (int what = 0; what < 3; what++) {
+            due("trace(0, " + what + ") of the latest", g.trace(0, what), one[what]);
+            due("trace(1, " + what + ") of the latest", g.trace(1, what), NONE);
+        }
         error("no line is tried", g, g.parse(), 1, NONE);
+        due("trace(0, 1) of none", g.trace(0, 1), NONE);
         due("told(4) of none", g.told(4), 0);
         due("trace(0, 0) of none", g.trace(0, 0), NONE);
     }
