@@ -1,23 +1,7 @@
-import java.util.ArrayList;
 import java.util.List;
 
 /** Each promise of the document by itself: ordinary inputs, the edges it names, wrong inputs. */
-public final class PromisesTest {
-    private static final int AND = 1, THEN = 2, BUT = 3, ALL = 4, AGAIN = 5, OOPS = 6, COMMA = 7;
-    private static final int NONE = -1, UNKNOWN = -101, OUTSIDE = -102, STATE = -103, ROOM = -104;
-
-    private static String promise = "";
-    private static int wrong = 0;
-    private static int checks = 0;
-
-    private static void due(String what, int got, int want) {
-        checks++;
-        if (got != want) {
-            wrong++;
-            System.out.println(promise + ": " + what + " answered " + got + ", due is " + want);
-        }
-    }
-
+public final class PromisesTest extends Checks {
     public static void main(String[] args) {
         constantsAndNewObject();
         verbs();
@@ -51,107 +35,7 @@ public final class PromisesTest {
         objects();
         toldAndTraced();
         refusalsChangeNothing();
-        System.out.println(checks + " answers looked at, " + wrong + " are not as due");
-        if (wrong != 0) {
-            System.exit(1);
-        }
-    }
-
-    // ---- helpers ----
-
-    /** Puts words behind INPUT and parses. */
-    private static int say(GrammarLines g, int... words) {
-        for (int w : words) {
-            g.word(w);
-        }
-        return g.parse();
-    }
-
-    /** A line of a verb with kinds; a kind of 1000 * of + kind has that 'of'. */
-    private static int lineOf(GrammarLines g, int verb, int action, boolean reversed, int... kinds) {
-        int line = g.line(verb, action, reversed);
-        for (int kind : kinds) {
-            g.token(line, kind % 1000, kind / 1000);
-        }
-        return line;
-    }
-
-    private static int thingOf(GrammarLines g, int flags, int... names) {
-        int thing = g.thing(flags);
-        for (int name : names) {
-            g.name(thing, name);
-        }
-        return thing;
-    }
-
-    private static int w(int word) {
-        return 1000 * word;
-    }
-
-    private static int or(int word) {
-        return 1000 * word + 1;
-    }
-
-    private static int custom(int number) {
-        return 1000 * number + 11;
-    }
-
-    private static void error(String what, GrammarLines g, int answer, int error, int place) {
-        due(what + ", its answer", answer, error >= 15 ? 0 : -error);
-        due(what + ", told(0)", g.told(0), error);
-        due(what + ", told(1)", g.told(1), place);
-    }
-
-    private static void slot(String what, GrammarLines g, int slot, int kind, int... items) {
-        due(what + ", kind of slot " + slot, g.object(slot, -2), kind);
-        due(what + ", how many of slot " + slot, g.object(slot, -1), items.length);
-        for (int i = 0; i < items.length; i++) {
-            due(what + ", item " + i + " of slot " + slot, g.object(slot, i), items[i]);
-        }
-        due(what + ", behind the items of slot " + slot, g.object(slot, items.length), NONE);
-    }
-
-    private static void asked(String what, GrammarLines g, int error, int... items) {
-        due(what + ", asked(-1)", g.asked(-1), error);
-        for (int i = 0; i < items.length; i++) {
-            due(what + ", asked(" + i + ")", g.asked(i), items[i]);
-        }
-        due(what + ", behind what is asked", g.asked(items.length), NONE);
-    }
-
-    private static void filled(String what, GrammarLines g, int... items) {
-        for (int i = 0; i < items.length; i++) {
-            due(what + ", filled(" + i + ")", g.filled(i), items[i]);
-        }
-        due(what + ", behind what is filled", g.filled(items.length), NONE);
-    }
-
-    private static void command(String what, GrammarLines g, int... words) {
-        due(what + ", words of the command", g.told(6), words.length);
-        for (int i = 0; i < words.length; i++) {
-            due(what + ", said(0, " + i + ")", g.said(0, i), words[i]);
-        }
-        due(what + ", behind the command", g.said(0, words.length), NONE);
-    }
-
-    /** One verb, 50, with one line of action 1. */
-    private static GrammarLines oneLine(int... kinds) {
-        GrammarLines g = new GrammarLines();
-        g.verb(50);
-        lineOf(g, 0, 1, false, kinds);
-        return g;
-    }
-
-    /** Two lamps here (20, and 30 or 31), a held key 21, a worn hat 22, a creature bob 23, a far box 24. */
-    private static GrammarLines furnished(int... kinds) {
-        GrammarLines g = oneLine(kinds);
-        thingOf(g, 1, 20, 30);
-        thingOf(g, 1, 20, 31);
-        thingOf(g, 2, 21);
-        thingOf(g, 4, 22);
-        thingOf(g, 9, 23);
-        thingOf(g, 0, 24);
-        return g;
+        end();
     }
 
     // ---- promises 1 to 11 ----
@@ -1162,20 +1046,6 @@ public final class PromisesTest {
         due("trace(0, 1) of none", g.trace(0, 1), NONE);
         due("told(4) of none", g.told(4), 0);
         due("trace(0, 0) of none", g.trace(0, 0), NONE);
-    }
-
-    private static List<Integer> everything(GrammarLines g) {
-        List<Integer> all = new ArrayList<>();
-        for (int i = -3; i < 62; i++) {
-            all.add(g.told(i));
-            all.add(g.said(0, i));
-            all.add(g.said(1, i));
-            all.add(g.asked(i));
-            all.add(g.filled(i));
-            all.add(g.object(0, i));
-            all.add(g.object(1, i));
-        }
-        return all;
     }
 
     private static void refusalsChangeNothing() {
