@@ -465,9 +465,10 @@ public final class ModelTest {
     private final Model model = new Model();
     private final List<String> calls = new ArrayList<>();
     private static final int[] errorsSeen = new int[17];
-    private static final int[] seen = new int[8];
+    private static final int[] seen = new int[9];
     private static int wrong = 0;
-    private static final int ACTIONS = 0, FILLS = 1, ORDERS = 2, ANSWERED = 3, AGAINS = 4, MENDED = 5, REVERSED = 6, LEFT = 7;
+    private static final int ACTIONS = 0, FILLS = 1, ORDERS = 2, ANSWERED = 3, AGAINS = 4, MENDED = 5, REVERSED = 6, LEFT = 7,
+        FULL = 8;
 
     private ModelTest(int run) {
         this.run = run;
@@ -527,6 +528,10 @@ public final class ModelTest {
     }
 
     private void world() {
+        if (run % 10 == 0) {
+            fullWorld();
+            return;
+        }
         int verbs = 1 + random.nextInt(3);
         for (int i = 0; i < verbs; i++) verb(50 + i);
         if (once(2)) like(random.nextInt(verbs), 53);
@@ -541,9 +546,22 @@ public final class ModelTest {
         grammar(1 + random.nextInt(8));
     }
 
+    /** All room taken, and calls beyond it. */
+    private void fullWorld() {
+        for (int i = 0; i < 22; i++) verb(i < 3 ? 50 + i : 150 + i);
+        for (int i = 0; i < 45; i++) like(random.nextInt(20), i == 0 ? 53 : 200 + i);
+        for (int i = 0; i < 42; i++) {
+            thing(pick(0, 0, 1, 1, 2, 4, 9, random.nextInt(16)));
+            for (int k = random.nextInt(7); k > 0; k--) name(i, once(3) ? 300 + i : nameWord());
+        }
+        for (int i = 0; i < 45; i++) custom(random.nextInt(3), once(2) ? nameWord() : 400 + i, random.nextInt(10000));
+        grammar(62);
+        seen[FULL]++;
+    }
+
     private void grammar(int lines) {
         for (int i = 0; i < lines; i++) {
-            int verb = random.nextInt(Math.max(1, model.verbs));
+            int verb = random.nextInt(Math.max(1, once(3) ? model.verbs : Math.min(3, model.verbs)));
             int action = 1 + random.nextInt(9999);
             boolean reversed = once(2);
             same("line(" + verb + ", " + action + ", " + reversed + ")", real.line(verb, action, reversed), model.line(verb, action, reversed));

@@ -427,8 +427,15 @@ public final class TakingTest extends Checks {
         due("to none", say(g, 50, 22), 1);
         due("AGAIN, an order", say(g, 23, COMMA, AGAIN), 1);
         to("AGAIN, an order", g, NONE, 50, 22);
-        g.flags(4, 0);
-        due("an order", say(g, 26, COMMA, 50, 21), 1);
+        due("an order again", say(g, 23, COMMA, 50, 21), 1);
+        error("an error of none", g, say(g, 50, 99), 7, 1);
+        due("AGAIN behind an error of none", say(g, AGAIN), 1);
+        to("AGAIN behind an error of none", g, 4, 50, 21);
+        due("to none again", say(g, 50, 22), 1);
+        error("an error of another", g, say(g, 26, COMMA, 50, 99), 7, 1);
+        due("AGAIN behind an error of another", say(g, AGAIN), 1);
+        to("AGAIN behind an error of another", g, NONE, 50, 22);
+        due("an order to another", say(g, 26, COMMA, 50, 21), 1);
         g.flags(6, 0);
         due("the creature is gone", say(g, AGAIN), 1);
         to("the creature is gone", g, 6, 50, 21);
