@@ -192,25 +192,14 @@ public final class GrammarLines {
             return STATE;
         }
         if (verbs.find(w) != NONE) {
-            // One word alone is neither an order nor AGAIN nor OOPS: parse() would take just this of it.
-            input.empty();
-            command.empty();
-            command.add(w);
-            recipient = NONE;
+            beginAnew(w);
             return tryCommand();
         }
         int told = report.error == WHAT ? report.question.size() - 1 : 0;
         if (command.size() + told + 1 > MOST_WORDS) {
             return ROOM;
         }
-        if (report.error == WHICH) {
-            command.insert(report.phraseEnd, w);
-        } else {
-            for (int i = 1; i <= told; i++) {
-                command.add(report.question.at(i));
-            }
-            command.add(w);
-        }
+        putAnswer(w, told);
         return tryCommand();
     }
 
@@ -362,6 +351,26 @@ public final class GrammarLines {
             return NO_WORDS;
         }
         return again ? NO_AGAIN : oops ? NO_OOPS : 0;
+    }
+
+    /** Makes a verb's word the COMMAND: alone it is no order, AGAIN or OOPS, so that parse() would take just this. */
+    private void beginAnew(int w) {
+        input.empty();
+        command.empty();
+        command.add(w);
+        recipient = NONE;
+    }
+
+    /** Puts the answer into COMMAND: behind the phrase that was asked of, or behind all and the words told. */
+    private void putAnswer(int w, int told) {
+        if (report.error == WHICH) {
+            command.insert(report.phraseEnd, w);
+            return;
+        }
+        for (int i = 1; i <= told; i++) {
+            command.add(report.question.at(i));
+        }
+        command.add(w);
     }
 
     private int tryCommand() {
