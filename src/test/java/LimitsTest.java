@@ -41,6 +41,7 @@ public final class LimitsTest extends Checks {
         tokenRoom();
         oneTokenWithEightWords();
         linesHaveTheirOwnTokens();
+        lastKindOfTheLastLine();
         thingFlags();
         thingRoom();
         nameOfWhichThing();
@@ -565,6 +566,41 @@ public final class LimitsTest extends Checks {
         due("line 59 in its order", say(g, 50, 200, 201, 202, 203, 204, 205, 206, 207), 60);
         due("line 58", say(g, 50, 301), 59);
         due("line 1", say(g, 50, 300), 2);
+    }
+
+    /** The 60th line with its eighth kind: nothing is behind it. */
+    private static void lastKindOfTheLastLine() {
+        promise = "LINES, 60 at most, with KINDS, 8 at most: the last of the last";
+        GrammarLines words = lastLine(w(70), w(71), w(72), w(73), w(74), w(75), w(76), w(77));
+        due("a word", say(words, 50, 70, 71, 72, 73, 74, 75, 76, 77), 60);
+        error("another word", words, say(words, 50, 70, 71, 72, 73, 74, 75, 76, 78), 5, 8);
+        error("no word", words, say(words, 50, 70, 71, 72, 73, 74, 75, 76), 5, 8);
+        error("a word more", words, say(words, 50, 70, 71, 72, 73, 74, 75, 76, 77, 78), 6, 9);
+        GrammarLines others = lastLine(w(70), or(71), or(72), or(73), or(74), or(75), or(76), or(77));
+        due("the last of the words that may stand there", say(others, 50, 77), 60);
+        error("none of the words", others, say(others, 50, 78), 5, 1);
+        GrammarLines topic = lastLine(w(70), w(71), w(72), w(73), w(74), w(75), w(76), 9);
+        due("a topic", say(topic, 50, 70, 71, 72, 73, 74, 75, 76, 70, 77), 60);
+        slot("a topic", topic, 0, 9, 70, 77);
+        error("no topic", topic, say(topic, 50, 70, 71, 72, 73, 74, 75, 76), 16, 8);
+        asked("no topic", topic, 16, 9);
+        GrammarLines filled = lastLine(w(70), w(71), w(72), w(73), w(74), w(75), w(76), 2);
+        thingOf(filled, 1, 20);
+        due("a thing", say(filled, 50, 70, 71, 72, 73, 74, 75, 76, 20), 60);
+        due("all is filled", say(filled, 50), 60);
+        filled("all is filled", filled, 70, 71, 72, 73, 74, 75, 76, 20000);
+    }
+
+    /** A verb 50 with the 60th line, of action 60; the other lines are of another verb. */
+    private static GrammarLines lastLine(int... kinds) {
+        GrammarLines g = new GrammarLines();
+        g.verb(50);
+        g.verb(51);
+        for (int i = 1; i < 60; i++) {
+            g.line(1, i, false);
+        }
+        lineOf(g, 0, 60, false, kinds);
+        return g;
     }
 
     // ---- things: promises 6 to 8 ----
